@@ -223,6 +223,12 @@ public final class PromisesTest {
             many.append("x ");
         }
         due("the most tokens", signsOf(many.toString()), 0);
+        String last = many.substring(0, 194) + "x or y";
+        WordTree twice = new WordTree();
+        for (int number = 0; number < 2; number++) {
+            due("a hundred tokens", Checks.text(twice, last), number);
+            due("a sign at their end", twice.signs(number), 1);
+        }
         due("signs, none such", new WordTree().signs(-1), NONE);
     }
 
@@ -340,6 +346,8 @@ public final class PromisesTest {
         due("full", x.say(1, 3, 1, 0, 1), NONE);
         due("sayings", x.count(2), 60);
         due("weight", x.weight(1, 1, 0), 53);
+        due("last reason", x.reason(1, 1, 0, 52, 2), 1);
+        due("behind the last", x.reason(1, 1, 0, 53, 2), NONE);
         due("not, refused", x.say(1, 3, 0, 1, 0), NONE);
         due("parent", x.parent(1), 0);
     }
@@ -573,6 +581,9 @@ public final class PromisesTest {
         for (int k : new int[] {5, -2, MIN, MAX, 24}) {
             due("below 0, " + k, x.below(0, k), NONE);
         }
+        x.say(0, 0, 6, 0, 1);
+        due("below 6", x.below(6, NONE), 6);
+        due("below 6, the first word", x.below(6, 0), 0);
         WordTree chain = withWords(24);
         for (int i = 0; i < 23; i++) {
             chain.say(0, 0, i, i + 1, 1 + i % 9);
@@ -732,6 +743,17 @@ public final class PromisesTest {
         due("best is better", greedy.best(7), 8);
         greedy.say(0, 3, 2, 0, 0);
         due("not over the way", greedy.best(7), 5);
+        WordTree light = withWords(6);
+        for (int i = 0; i < 5; i++) {
+            light.say(0, 0, i, i + 1, 1);
+        }
+        due("a chain of all six", light.best(0x3f), 5);
+        light.say(0, 3, 0, 5, 0);
+        light.say(0, 3, 1, 5, 0);
+        due("two nots of one word", light.best(0x3f), 4);
+        light.say(0, 0, 0, 5, 9);
+        light.say(0, 0, 1, 5, 9);
+        due("two nots of one word", light.best(0x3f), 4);
         WordTree full = withWords(24);
         full.say(0, 0, 23, 0, 9);
         full.say(0, 0, 12, 23, 9);

@@ -21,7 +21,7 @@ public final class RulesTest {
             "int way(int, int)", "int shared(int, int)", "int senses(int)", "int sum()", "int best(int)", "int keep()",
             "int over(int)", "int count(int)");
     private static final String[] FORBIDDEN = {"throw", "throws", "try", "catch", "finally", "synchronized", "assert",
-            "package", "System", "Exact", "Object", "Random", "Thread", "native", "volatile", "null"};
+            "package", "Object", "Random", "Thread", "native", "volatile", "float", "double"};
 
     private RulesTest() {
     }
@@ -98,11 +98,12 @@ public final class RulesTest {
         while (imports.find()) {
             Checks.due("import " + imports.group(1), imports.group(1).equals("java.util.Arrays"), true);
         }
-        Matcher calls = Pattern.compile("\\b(Arrays|Integer|Long|Math)\\.(\\w+)").matcher(code);
+        Matcher calls = Pattern.compile("\\b(System|Arrays)\\.(\\w+)").matcher(code);
         while (calls.find()) {
-            boolean known = Set.of("fill", "bitCount", "max").contains(calls.group(2));
+            boolean known = Set.of("arraycopy", "fill", "copyOf", "copyOfRange").contains(calls.group(2));
             Checks.due("call of " + calls.group(), known, true);
         }
+        Checks.due("Exact", Pattern.compile("\\b(Integer|Long|Math)\\.\\w*Exact\\b").matcher(code).find(), false);
     }
 
     private static String withoutComments(String code) {
