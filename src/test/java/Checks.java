@@ -1,3 +1,5 @@
+import java.util.function.IntUnaryOperator;
+
 /** What the tests share: comparing answers, and putting texts on the tape. */
 final class Checks {
     private static int done = 0;
@@ -23,6 +25,35 @@ final class Checks {
 
     static void due(String call, boolean got, boolean want) {
         due(call, got ? 1 : 0, want ? 1 : 0);
+    }
+
+    static void due(String call, String got, String want) {
+        boolean same = got.equals(want);
+        due(same ? call : call + ": '" + got + "', due is '" + want + "':", same, true);
+    }
+
+    /**
+     * A place that takes the numbers from least to greatest: at either the answer that is due, and NONE for those
+     * beyond, among them what would come out the same if it were cut to fewer bits or added to other places.
+     */
+    static void place(String call, IntUnaryOperator ask, int least, int atLeast, int greatest, int atGreatest) {
+        due(call + " " + least, ask.applyAsInt(least), atLeast);
+        due(call + " " + greatest, ask.applyAsInt(greatest), atGreatest);
+        for (int wrong : beyond(least, greatest)) {
+            due(call + " " + wrong, ask.applyAsInt(wrong), WordTree.NONE);
+        }
+    }
+
+    /** Numbers below the least and above the greatest; the two are less than 24 apart. */
+    static int[] beyond(int least, int greatest) {
+        return new int[] {least - 1, greatest + 1, Integer.MIN_VALUE, Integer.MIN_VALUE + 1, Integer.MAX_VALUE,
+            Integer.MAX_VALUE - 1, least - 24, greatest + 24, least + 32, greatest + 64, least + 256, greatest + 576,
+            least + 65536, Integer.MIN_VALUE + 1 + greatest};
+    }
+
+    /** How many answers were looked at so far. */
+    static int done() {
+        return done;
     }
 
     static boolean anyWrong() {
@@ -58,6 +89,19 @@ final class Checks {
     static int word(WordTree x, String bytes) {
         feed(x, bytes);
         return x.word(bytes.length());
+    }
+
+    /** Words "wa", "wb", ..: as many as asked for, numbered from 0. */
+    static WordTree withWords(int many) {
+        WordTree x = new WordTree();
+        for (int i = 0; i < many; i++) {
+            due("word " + i, word(x, name(i)), i);
+        }
+        return x;
+    }
+
+    static String name(int word) {
+        return "w" + (char) ('a' + word);
     }
 
     /** A new object with the words given, numbered from 0. */

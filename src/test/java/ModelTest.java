@@ -1,7 +1,8 @@
 /** Long runs of made-up calls, each answer compared with the model's. The runs are the same every time. */
 public final class ModelTest {
-    private static final int RUNS = 400;
-    private static final int CALLS = 512;
+    private static final int RUNS = 600;
+    /** Past its 512th call what an object answers is free, and one step makes up to twelve. */
+    private static final int CALLS = 500;
     private static final String[] SMALL = {"such", "as", "and", "other", "is", "a", "kind", "of", "part", "or"};
     private static final String[] FORMS = {"such as", "and other", "is a kind of", "part of", "or"};
     private static final String[] GAPS = {" ", " ", " ", " ", " ", " ", " ", "  ", "\n", " \n ", ", ", ".", "\t", " 1 ", "X"};
@@ -22,7 +23,8 @@ public final class ModelTest {
         for (int seed = 0; seed < RUNS && !Checks.anyWrong(); seed++) {
             Checks.section("run " + seed);
             ModelTest run = new ModelTest(seed);
-            for (int call = 0; call < CALLS; call++) {
+            int before = Checks.done();
+            while (Checks.done() - before < CALLS) {
                 run.step();
             }
         }

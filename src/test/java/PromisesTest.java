@@ -46,13 +46,8 @@ public final class PromisesTest {
         Checks.due(call, got, want);
     }
 
-    /** Words "wa", "wb", ..: as many as asked for, numbered from 0. */
     private static WordTree withWords(int many) {
-        WordTree x = new WordTree();
-        for (int i = 0; i < many; i++) {
-            due("word " + i, Checks.word(x, "w" + (char) ('a' + i)), i);
-        }
-        return x;
+        return Checks.withWords(many);
     }
 
     private static void newObject() {
@@ -844,10 +839,10 @@ public final class PromisesTest {
 
     private static void wrongNumbers() {
         Checks.section("any int in any place");
-        WordTree x = grown();
-        Checks.text(x, "wa such as wb or wc");
-        x.keep();
         for (int wrong : WRONG) {
+            WordTree x = grown();
+            Checks.text(x, "wa such as wb or wc");
+            x.keep();
             for (int i = 0; i < 3; i++) {
                 int a = i == 1 ? 0 : wrong;
                 int b = i == 0 ? 1 : wrong;
@@ -880,7 +875,7 @@ public final class PromisesTest {
             due("say weight", x.say(0, 0, 0, 1, wrong), NONE);
             due("over", x.over(wrong), NONE);
             due("count", x.count(wrong), NONE);
+            due("nothing came of it", x.count(0) + 100 * x.count(1) + 1000 * x.count(2), 5107);
         }
-        due("nothing came of it", x.count(0) + 100 * x.count(1) + 1000 * x.count(2), 5107);
     }
 }
