@@ -75,7 +75,7 @@ public final class WordTree {
         words = new Words();
         reader = new Reader();
         evidence = new Evidence();
-        tree = new Tree(evidence.banned);
+        tree = new Tree();
         picture = new Picture();
         search = new Search();
         stale = true;
@@ -265,7 +265,7 @@ public final class WordTree {
     // The tree is built when it is asked for, not at each change: many changes may come in a row.
     private Tree currentTree() {
         if (stale) {
-            tree.build(evidence.weights);
+            tree.build(evidence.weights, evidence.banned);
             stale = false;
         }
         return tree;
@@ -663,11 +663,9 @@ public final class WordTree {
     private static final class Forest {
         // For each member the bits of all above it.
         final int[] aboves;
-        final int[] banned;
 
-        Forest(int[] banned) {
-            this.banned = banned;
-            aboves = new int[banned.length];
+        Forest(int most) {
+            aboves = new int[most];
         }
 
         void clear() {
@@ -680,12 +678,13 @@ public final class WordTree {
             }
         }
 
-        int barOf(int x, int y) {
+        // Banned are, for each member, the bits of those that aren't above it.
+        int barOf(int x, int y, int[] banned) {
             if (hasBit(aboves[x], y)) {
                 return RING;
             }
             int gained = aboves[x] | 1 << x;
-            for (int i = 0; i < aboves.length; i++) {
+            for (int i = 0; i < aboves.length && i < banned.length; i++) {
                 if (isOrLower(i, y) && (banned[i] & gained) != 0) {
                     return BARRED;
                 }
@@ -729,19 +728,19 @@ public final class WordTree {
         int links;
         int total;
 
-        Tree(int[] banned) {
-            forest = new Forest(banned);
+        Tree() {
+            forest = new Forest(MOST_WORDS);
             parents = new int[MOST_WORDS];
             bars = new int[PAIRS];
             nears = new int[MOST_WORDS];
             order = new int[PAIRS];
         }
 
-        void build(int[] weights) {
+        void build(int[] weights, int[] banned) {
             clear();
             orderLinks(weights);
             for (int i = 0; i < weighed; i++) {
-                place(order[i], weights[order[i]]);
+                place(order[i], weights[order[i]], banned);
             }
             for (int i = 0; i < MOST_WORDS; i++) {
                 findNears(i, weights);
@@ -773,10 +772,10 @@ public final class WordTree {
             }
         }
 
-        private void place(int cell, int weight) {
+        private void place(int cell, int weight, int[] banned) {
             int x = cell / MOST_WORDS;
             int y = cell % MOST_WORDS;
-            bars[cell] = parents[y] == NONE ? forest.barOf(x, y) : HAS_PARENT;
+            bars[cell] = parents[y] == NONE ? forest.barOf(x, y, banned) : HAS_PARENT;
             if (bars[cell] == FREE) {
                 parents[y] = x;
                 forest.join(x, y);
@@ -914,7 +913,7 @@ public final class WordTree {
             hopes = new int[MOST_IN_SET + 1];
             levels = new Forest[MOST_IN_SET + 1];
             for (int i = 0; i <= MOST_IN_SET; i++) {
-                levels[i] = new Forest(banned);
+                levels[i] = new Forest(MOST_IN_SET);
             }
         }
 
@@ -965,7 +964,7 @@ public final class WordTree {
             }
             for (int x = 0; x < size; x++) {
                 int gain = weights[x * MOST_IN_SET + y];
-                if (gain > 0 && levels[y].barOf(x, y) == FREE) {
+                if (gain > 0 && levels[y].barOf(x, y, banned) == FREE) {
                     levels[y + 1].copy(levels[y]);
                     levels[y + 1].join(x, y);
                     descend(y + 1, reached + gain);

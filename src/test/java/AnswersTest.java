@@ -484,8 +484,8 @@ public final class AnswersTest {
         due("turned", x.over(3), turned);
     }
 
-    @Says("LINKS that both have (0), the picture alone (1), THE TREE alone (2), those turned about (3: of the picture's "
-            + "LINKS).")
+    @Says("Laid over: LINKS that both have (0), the picture alone (1), THE TREE alone (2), those turned about (3: of the "
+            + "picture's LINKS).")
     static void promise22LaidOver() {
         WordTree x = Checks.withWords(24);
         x.say(0, 0, 23, 22, 1);

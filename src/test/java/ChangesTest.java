@@ -503,6 +503,23 @@ public final class ChangesTest {
         due("no kind", x.say(0, 4, 0, 1, 1), NONE);
     }
 
+    @Says("A SAYING: its number.")
+    static void promise8ItsNumber() {
+        WordTree x = Checks.withWords(24);
+        for (int number = 0; number < 60; number++) {
+            int kind = number * 7 % 4;
+            due("refused, it takes no number", x.say(10, kind, 0, 1, 1), NONE);
+            due("saying " + number, x.say(number % 10, kind, number % 24, (number + 1) % 24, 1 + number % 9), number);
+            due("sayings", x.count(2), number + 1);
+        }
+        x = Checks.withWords(2);
+        Checks.text(x, "wa such as wb");
+        due("texts have numbers of their own", x.say(0, 0, 0, 1, 1), 0);
+        x.back(0);
+        due("nor does taking back free one", x.say(0, 0, 0, 1, 1), 1);
+        due("the same again is one more", x.say(0, 0, 0, 1, 1) * 10 + x.weight(0, 0, 1), 23);
+    }
+
     @Says("NONE, doing nothing: not as told")
     static void promise8NotAsToldDoesNothing() {
         for (World world : World.values()) {

@@ -19,7 +19,7 @@ final class Sentences {
 
     /** The promises from first to last have a test each at least; the tests of the terms count as promise 0. */
     static void run(Class<?> tests, int first, int last) throws IOException {
-        String document = plain(Files.readString(Path.of("../shared/DOC.md")));
+        String document = document();
         Method[] methods = tests.getDeclaredMethods();
         Arrays.sort(methods, Comparator.comparing(Method::getName));
         Set<Integer> covered = new TreeSet<>();
@@ -62,7 +62,12 @@ final class Sentences {
         }
     }
 
-    private static String plain(String words) {
+    /** The whole document as one line. */
+    static String document() throws IOException {
+        return plain(Files.readString(Path.of("../shared/DOC.md")));
+    }
+
+    static String plain(String words) {
         return words.replaceAll("\\s+", " ");
     }
 }

@@ -33,6 +33,18 @@ public final class TermsTest {
         return x;
     }
 
+    @Says("`NONE = -1`: There is none.")
+    static void termsNoneIsMinus1() {
+        due("the constant", NONE, -1);
+        WordTree x = new WordTree();
+        due("no word", x.parent(0), -1);
+        due("no text", x.signs(0), -1);
+        due("not one of the counts", x.count(6), -1);
+        Checks.word(x, "dogs");
+        due("as a place: how many bytes", x.letter(0, -1), 4);
+        due("as a place: how many below", x.below(0, -1), 0);
+    }
+
     @Says("An object is used for at most 512 calls after it has been made")
     static void termsTheCall512IsAnsweredToo() {
         WordTree x = new WordTree();
@@ -358,6 +370,27 @@ public final class TermsTest {
         due("behind the last", x.reason(2, 0, 1, 39, 0), NONE);
     }
 
+    @Says("(several may be at one: in the order told here)")
+    static void termsNoTwoOfTheFormsAreAtOneToken() {
+        for (String form : FORMS) {
+            for (String other : FORMS) {
+                due("xx " + form + " " + other + " yy", signsOf("xx " + form + " " + other + " yy"), 0);
+                due("one behind the other", signsOf("xx " + form + " yy " + other + " zz"), 2);
+            }
+        }
+        WordTree x = read("xx or yy or xx and other yy part of xx such as yy is a kind of xx");
+        due("one for each token that is X", x.signs(0), 6);
+        int[] places = {0, 6};
+        for (int k = 0; k < places.length; k++) {
+            due("place of alike " + k, x.reason(2, 0, 1, k, 1), places[k]);
+        }
+        due("place of xx and other", x.reason(0, 1, 0, 0, 1), 12);
+        due("place of part", x.reason(1, 1, 0, 0, 1), 25);
+        due("place of such as", x.reason(0, 0, 1, 0, 1), 36);
+        due("place of kind of", x.reason(0, 0, 1, 1, 1), 47);
+        due("no more", x.reason(0, 0, 1, 2, 1) + x.reason(0, 1, 0, 1, 1) + x.reason(2, 0, 1, 2, 1), 3 * NONE);
+    }
+
     @Says("the WORDS X, then Y come")
     static void termsXComesThenY() {
         WordTree x = read("bb and other aa. cc is a kind of bb. dd such as aa");
@@ -537,6 +570,26 @@ public final class TermsTest {
         x.say(0, 0, 0, 3, 5);
         due("the lesser x, though its y is greater", x.parent(3), 0);
         due("what would be a ring then", x.why(1, 2), 3);
+    }
+
+    @Says("x becomes the PARENT of y")
+    static void termsXBecomesTheParentOfY() {
+        for (int last = 1; last < 24; last += 11) {
+            WordTree x = Checks.withWords(24);
+            x.say(0, 0, last, 0, 1);
+            due("x becomes the parent", x.parent(0) * 100 + x.why(last, 0), last * 100);
+            due("y doesn't", x.parent(last), NONE);
+            due("nor has another one", x.count(4), 1);
+            x = Checks.withWords(24);
+            x.say(0, 0, 0, last, 1);
+            due("the other way", x.parent(last) * 100 + x.why(0, last), 0);
+            due("its parent has none", x.parent(0), NONE);
+        }
+        WordTree x = Checks.withWords(24);
+        for (int y = 1; y < 24; y++) {
+            x.say(0, 0, 0, y, 1);
+            due("one may be the parent of many", x.count(4), y);
+        }
     }
 
     @Says("if the first of these that bars it doesn't: 1 (no WEIGHT)")
@@ -819,6 +872,24 @@ public final class TermsTest {
         due("by one that isn't its neighbour", x.senses(0), 2);
         x.say(0, 0, 3, 0, 1);
         due("by one that is", x.senses(0), 1);
+    }
+
+    @Says("A KEPT picture of THE TREE is laid over it")
+    static void termsThePictureStaysWhileTheTreeChanges() {
+        WordTree x = Checks.withWords(4);
+        Checks.text(x, "wa such as wb. wb such as wc");
+        due("keep", x.keep(), 2);
+        x.back(0);
+        due("nothing of it is left", x.count(4), 0);
+        due("the picture has it", x.over(1), 2);
+        x.say(0, 0, 0, 3, 1);
+        due("what came behind isn't in the picture", x.over(2), 1);
+        Checks.text(x, "wa such as wb");
+        due("it is laid over what is there now", x.over(0) * 100 + x.over(1) * 10 + x.over(2), 111);
+        due("a new word changes no picture", Checks.word(x, "we") * 10 + x.over(0), 41);
+        Checks.text(x, "wb such as wc. wc part of wa. wc or wa");
+        due("all of the picture is there again", x.over(0) * 100 + x.over(1) * 10 + x.over(2), 201);
+        due("none of it was turned", x.over(3), 0);
     }
 
     @Says("LINKS that both have; that the picture has alone, that THE TREE has alone; those turned about (x the PARENT "
