@@ -150,10 +150,13 @@ public final class WholeTest {
             due("a heavier parent, or a lesser one", heavier > 0 || heavier == 0 && parent < x);
         }
         if (bar == 3) {
-            for (int at = x; at != y && at != NONE; at = tree.parent(at)) {
-                due("a way up to it", tree.parent(at) != NONE);
-                due("of heavier links", tree.parent(at) == NONE || tree.weight(0, tree.parent(at), at) >= weight);
+            int at = x;
+            for (int step = 0; step < WORDS && at != y && at != NONE; step++) {
+                int parent = tree.parent(at);
+                due("of heavier links", parent == NONE || tree.weight(0, parent, at) >= weight);
+                at = parent;
             }
+            due("a way up to it", at, y);
         }
         if (bar == 4) {
             due("a not it would bring", nots.stream().anyMatch(not -> isOrAbove(not[0], x) && isOrAbove(y, not[1])));
